@@ -4,6 +4,7 @@ public final class PegsTest {
 
   public static void main(String[] args) {
     suppliesInTheirOrder();
+    ordersBetweenReceipts();
     claimsOfLines();
     lateReceipts();
     pegRefuses();
@@ -37,6 +38,26 @@ public final class PegsTest {
         CHECK.is("week " + w + " for " + d, w == 3 ? due[d][5] : 0, () -> x.peg(d, 2, w));
       }
     }
+  }
+
+  private static void ordersBetweenReceipts() {
+    NettedPlans x = new NettedPlans();
+    x.demand(9, 1, 10);
+    x.demand(9, 3, 10);
+    x.demand(9, 5, 10);
+    x.order(9, 4, 3);
+    x.order(9, 2, 2);
+    x.order(9, 2, 2);
+    x.replan();
+    // supplies: week 1 10, orders 1 and 2, week 3 6, order 0, week 5 7
+    CHECK.is("week 1", 10, () -> x.peg(0, 2, 1));
+    CHECK.is("order 1", 2, () -> x.peg(1, 1, 1));
+    CHECK.is("order 2", 2, () -> x.peg(1, 1, 2));
+    CHECK.is("week 3", 6, () -> x.peg(1, 2, 3));
+    CHECK.is("order 0", 3, () -> x.peg(2, 1, 0));
+    CHECK.is("week 5", 7, () -> x.peg(2, 2, 5));
+    CHECK.is("none of week 3 is left", 0, () -> x.peg(2, 2, 3));
+    CHECK.is("none of order 0 is early", 0, () -> x.peg(1, 1, 0));
   }
 
   private static void claimsOfLines() {

@@ -10,6 +10,7 @@ public final class PlanTest {
     ruleTwo();
     ruleThree();
     ruleThreeTakesTheLeastWeek();
+    ruleThreeAcrossGaps();
     ruleThreeBehindTheLead();
     scrapIsRoundedForEachReceipt();
     levelsComeBeforeNumbers();
@@ -136,6 +137,21 @@ public final class PlanTest {
     CHECK.is("all are free: the first week alone", 20, () -> x.planned(3, 0));
   }
 
+  private static void ruleThreeAcrossGaps() {
+    NettedPlans x = with(3, 1, 0, 0, 10, 0, 0, 0, 0, 10, 0, 0, 0, 0, 0, 10);
+    x.costs(3, 0, 30, 1);
+    x.replan();
+    rows("each its own", x, 3, new long[] {10, 0, 0, 0, 0, 10, 0, 0, 0, 0, 0, 10}, new long[12]);
+    x.costs(3, 0, 60, 1);
+    x.replan();
+    rows("two and one", x, 3, new long[] {20, 0, 0, 0, 0, 0, 0, 0, 0, 0, 0, 10},
+        new long[] {10, 10, 10, 10, 10, 0, 0, 0, 0, 0, 0, 0});
+    NettedPlans one = with(3, 1, 0, 0, 1, 1);
+    one.costs(3, 0, 100, 1);
+    one.replan();
+    CHECK.is("a need of 1 in week 0", 2, () -> one.planned(3, 0));
+  }
+
   private static void ruleThreeBehindTheLead() {
     NettedPlans x = with(3, 1, 2, 4, 3, 4, 5, 6);
     x.costs(3, 0, 10, 1);
@@ -256,6 +272,16 @@ public final class PlanTest {
     x.line(3, 0, 1, 0, 11);
     CHECK.is("levels alone net nothing", 1, x::replan);
     CHECK.is("level moved", 3, () -> x.level(2));
+    x.change(0, 0, 0);
+    x.line(0, 1, 1, 0, 11);
+    x.demand(0, 0, 10);
+    x.replan();
+    x.change(0, 1, 11);
+    CHECK.is("another gross in week 0 alone", 2, x::replan);
+    x.demand(0, 11, 0);
+    x.replan();
+    x.change(0, 2, 1);
+    CHECK.is("another gross in week 11 alone", 2, x::replan);
   }
 
   private static void plansAreAskedWithCare() {
