@@ -11,6 +11,7 @@ public final class BookingsTest {
       numbersFromZero(kind);
       refuses(kind);
       atMost24(kind);
+      quantitiesAtTheirEdges(kind);
       changes(kind);
       changeRefuses(kind);
     }
@@ -70,6 +71,26 @@ public final class BookingsTest {
     CHECK.is("24", 24, () -> x.count(1 + kind));
     CHECK.is("changed to 0", 23, () -> x.change(kind, 23, 0));
     CHECK.fails("makes no room", Check.STATE, () -> of.book(0, 0, 1));
+  }
+
+  private static void quantitiesAtTheirEdges(int kind) {
+    NettedPlans x = new NettedPlans();
+    Booking of = of(x, kind);
+    CHECK.is("none", 0, () -> of.book(5, 0, 0));
+    CHECK.is("the most", 1, () -> of.book(5, 11, 1000));
+    x.replan();
+    long asked = kind == 0 ? 1000 : 0;
+    CHECK.is("gross of week 0", 0, () -> x.gross(5, 0));
+    CHECK.is("gross of week 11", asked, () -> x.gross(5, 11));
+    CHECK.is("planned in week 11", asked, () -> x.planned(5, 11));
+    CHECK.is("balance of week 10", 0, () -> x.balance(5, 10));
+    CHECK.is("balance of week 11", 1000 - asked, () -> x.balance(5, 11));
+    CHECK.is("none to the most", 0, () -> x.change(kind, 0, 1000));
+    CHECK.is("the most to none", 1000, () -> x.change(kind, 1, 0));
+    x.replan();
+    CHECK.is("gross of week 0 now", asked, () -> x.gross(5, 0));
+    CHECK.is("gross of week 11 now", 0, () -> x.gross(5, 11));
+    CHECK.is("balance of week 0 now", 1000 - asked, () -> x.balance(5, 0));
   }
 
   private static void changes(int kind) {

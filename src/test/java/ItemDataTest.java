@@ -11,7 +11,9 @@ public final class ItemDataTest {
     costsRefuse();
     madeTellsData();
     madeRefuses();
+    madeLeavesWhatIsTold();
     stockTells();
+    stockAtItsEdges();
     stockRefuses();
     refusedChangesNothing();
     CHECK.end();
@@ -167,6 +169,34 @@ public final class ItemDataTest {
     CHECK.fails("centre wins over hours", Check.INDEX, () -> x.made(0, 3, 10));
     CHECK.fails("hours -1", Check.ARGUMENT, () -> x.made(0, 0, -1));
     CHECK.fails("hours 10", Check.ARGUMENT, () -> x.made(0, 0, 10));
+  }
+
+  private static void madeLeavesWhatIsTold() {
+    NettedPlans x = new NettedPlans();
+    x.made(2, 1, 9);
+    CHECK.is("still nothing planned", 1, () -> x.count(5));
+    CHECK.fails("so there is no load", Check.STATE, () -> x.load(1, 0));
+    CHECK.is("all, though one was made", 12, x::replan);
+    x.demand(2, 0, 1000);
+    x.made(2, 1, 8);
+    CHECK.is("still told", 1, () -> x.count(5));
+    CHECK.is("the one of the demand", 1, x::replan);
+    CHECK.is("8 hours for each", 8000, () -> x.load(1, 0));
+    x.made(2, 1, 0);
+    CHECK.is("no hours", 0, () -> x.load(1, 0));
+    x.made(3, 1, 9);
+    CHECK.is("another item has no receipts", 0, () -> x.load(1, 0));
+  }
+
+  private static void stockAtItsEdges() {
+    NettedPlans x = new NettedPlans();
+    CHECK.is("none", 0, () -> x.stock(0, 10_000));
+    CHECK.is("the most", 10_000, () -> x.stock(0, 0));
+    CHECK.is("the least", 0, () -> x.stock(0, 10_000));
+    x.replan();
+    CHECK.is("the most in balance", 10_000, () -> x.balance(0, 11));
+    CHECK.is("more than can be promised at once", 0, () -> x.promise(0, 1000, 0));
+    CHECK.is("each item has its own", 0, () -> x.stock(11, 1));
   }
 
   private static void stockTells() {

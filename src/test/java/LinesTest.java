@@ -12,6 +12,9 @@ public final class LinesTest {
     noRing();
     noLevelAboveFour();
     atMost24Lines();
+    fullAndRing();
+    takenAwayInAnyWeeks();
+    refusedLineLeavesTheOneThereWas();
     levels();
     CHECK.end();
   }
@@ -163,6 +166,58 @@ public final class LinesTest {
     CHECK.is("23", 23, () -> x.count(0));
     CHECK.runs("now there is room", () -> x.line(4, 5, 1, 0, 11));
     CHECK.is("24 again", 24, () -> x.count(0));
+  }
+
+  private static void fullAndRing() {
+    NettedPlans x = new NettedPlans();
+    Offices.FULL.tell(x);
+    CHECK.is("24 lines", 24, () -> x.count(0));
+    CHECK.fails("full, and a ring", Check.STATE, () -> x.line(1, 0, 1, 0, 11));
+    CHECK.fails("full, and to itself", Check.STATE, () -> x.line(8, 8, 1, 0, 11));
+    CHECK.fails("full, and a level too deep", Check.STATE, () -> x.line(4, 5, 1, 0, 11));
+    CHECK.fails("weeks win over all that", Check.ARGUMENT, () -> x.line(4, 5, 1, 1, 0));
+    CHECK.fails("items win over all that", Check.INDEX, () -> x.line(12, 5, 1, 1, 0));
+    CHECK.is("nothing told", 0, () -> x.count(5));
+    CHECK.runs("in place of one", () -> x.line(3, 4, 9, 0, 0));
+    x.line(3, 4, 0, 0, 0);
+    CHECK.fails("one less, but a ring", Check.STATE, () -> x.line(3, 0, 1, 0, 11));
+    CHECK.runs("one less, and no ring", () -> x.line(0, 8, 1, 0, 11));
+    CHECK.is("24 lines again", 24, () -> x.count(0));
+  }
+
+  private static void takenAwayInAnyWeeks() {
+    int[][] weeks = {{0, 0}, {11, 0}, {-1, 12}, {12, -1},
+      {Integer.MIN_VALUE, Integer.MAX_VALUE}, {Integer.MAX_VALUE, Integer.MIN_VALUE}};
+    for (int[] span : weeks) {
+      NettedPlans x = new NettedPlans();
+      x.line(0, 1, 1, 3, 4);
+      x.replan();
+      CHECK.runs("there is one", () -> x.line(0, 1, 0, span[0], span[1]));
+      CHECK.is("it is gone", 0, () -> x.count(0));
+      CHECK.is("one is netted", 1, x::replan);
+      CHECK.runs("there is none", () -> x.line(0, 1, 0, span[0], span[1]));
+      CHECK.is("told", 1, () -> x.count(5));
+      CHECK.is("one is netted", 1, x::replan);
+    }
+  }
+
+  private static void refusedLineLeavesTheOneThereWas() {
+    NettedPlans x = new NettedPlans();
+    x.line(0, 1, 3, 2, 4);
+    x.demand(0, 2, 10);
+    x.demand(0, 5, 10);
+    x.replan();
+    CHECK.fails("per 10", Check.ARGUMENT, () -> x.line(0, 1, 10, 0, 11));
+    CHECK.fails("from 12", Check.ARGUMENT, () -> x.line(0, 1, 5, 12, 12));
+    CHECK.fails("from -1", Check.ARGUMENT, () -> x.line(0, 1, 5, -1, 1));
+    CHECK.fails("to 12", Check.ARGUMENT, () -> x.line(0, 1, 5, 3, 12));
+    CHECK.fails("from above to", Check.ARGUMENT, () -> x.line(0, 1, 5, 4, 3));
+    CHECK.is("not told", 0, () -> x.count(5));
+    x.stock(1, 0);
+    x.replan();
+    CHECK.is("3 for each, from week 2 on", 30, () -> x.gross(1, 2));
+    CHECK.is("not in week 5", 0, () -> x.gross(1, 5));
+    CHECK.is("one line", 1, () -> x.count(0));
   }
 
   private static void levels() {

@@ -7,6 +7,9 @@ public final class PegsTest {
     ordersBetweenReceipts();
     claimsOfLines();
     lateReceipts();
+    numberOfStockDoesNotMatter();
+    pegWithoutOrders();
+    pegOfOrdersOfWhateverItem();
     pegRefuses();
     CHECK.end();
   }
@@ -94,6 +97,42 @@ public final class PegsTest {
     CHECK.is("a receipt that comes late", 6, () -> x.peg(0, 2, 4));
     CHECK.is("the next demand", 2, () -> x.peg(1, 2, 4));
     CHECK.is("a demand of none", 0, () -> x.peg(2, 2, 4));
+  }
+
+  private static void numberOfStockDoesNotMatter() {
+    NettedPlans x = new NettedPlans();
+    x.stock(0, 3);
+    x.demand(0, 11, 4);
+    x.replan();
+    for (int number : new int[] {0, -1, 1, 11, 12, 24, Integer.MIN_VALUE, Integer.MAX_VALUE}) {
+      CHECK.is("stock with number " + number, 3, () -> x.peg(0, 0, number));
+    }
+  }
+
+  private static void pegWithoutOrders() {
+    NettedPlans x = new NettedPlans();
+    x.demand(0, 11, 4);
+    x.replan();
+    CHECK.fails("no order 0", Check.INDEX, () -> x.peg(0, 1, 0));
+    CHECK.is("no receipt in week 0", 0, () -> x.peg(0, 2, 0));
+    CHECK.is("the receipt of week 11", 4, () -> x.peg(0, 2, 11));
+    x.order(5, 0, 1);
+    x.replan();
+    CHECK.is("order 0 is there now", 0, () -> x.peg(0, 1, 0));
+    CHECK.fails("no order 1", Check.INDEX, () -> x.peg(0, 1, 1));
+  }
+
+  private static void pegOfOrdersOfWhateverItem() {
+    NettedPlans x = new NettedPlans();
+    x.demand(0, 0, 1000);
+    x.demand(1, 0, 1000);
+    x.order(1, 0, 1000);
+    x.order(0, 0, 1000);
+    x.replan();
+    CHECK.is("of another item", 0, () -> x.peg(0, 1, 0));
+    CHECK.is("of its own", 1000, () -> x.peg(0, 1, 1));
+    CHECK.is("of its own, too", 1000, () -> x.peg(1, 1, 0));
+    CHECK.is("of another, too", 0, () -> x.peg(1, 1, 1));
   }
 
   private static void pegRefuses() {
