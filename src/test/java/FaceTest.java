@@ -4,7 +4,7 @@ import java.lang.reflect.Method;
 import java.lang.reflect.Modifier;
 import java.util.TreeSet;
 
-/** The class shows the document's face, and nothing else. */
+/** The class shows the document's face, and nothing else; its members keep to LANGUAGE.md. */
 public final class FaceTest {
   private static final String INDEX = " IndexOutOfBoundsException";
   private static final String ARGUMENT = " IllegalArgumentException";
@@ -59,7 +59,34 @@ public final class FaceTest {
     Constructor<?>[] made = face.getDeclaredConstructors();
     check.is("constructors", 1, () -> made.length);
     check.same("constructor", "public NettedPlans()", made[0].toString());
+    namesOfPrivateMethods(check, face);
+    classesInside(check, face);
     check.end();
+  }
+
+  /** Rule 1: no private method bears the name of a public one. */
+  private static void namesOfPrivateMethods(Check check, Class<?> face) {
+    TreeSet<String> open = new TreeSet<>();
+    for (Method method : face.getMethods()) {
+      open.add(method.getName());
+    }
+    for (Method method : face.getDeclaredMethods()) {
+      if (Modifier.isPrivate(method.getModifiers())) {
+        check.is("taken name " + method.getName(), 0, () -> open.contains(method.getName()) ? 1 : 0);
+      }
+    }
+  }
+
+  /** Rules 1 and 11: classes inside are static and hidden, some twelve of some twenty fields. */
+  private static void classesInside(Check check, Class<?> face) {
+    Class<?>[] inside = face.getDeclaredClasses();
+    check.is("at most twelve classes", 1, () -> inside.length < 12 ? 1 : 0);
+    for (Class<?> one : inside) {
+      int hidden = one.getModifiers() & (Modifier.PUBLIC | Modifier.PROTECTED | Modifier.STATIC);
+      check.is("static and hidden: " + one.getName(), Modifier.STATIC, () -> hidden);
+      check.is("twenty fields: " + one.getName(), 1,
+          () -> one.getDeclaredFields().length <= 20 ? 1 : 0);
+    }
   }
 
   private static String told(Method method) {
